@@ -948,44 +948,39 @@ public final class PartyLines {
             }
         }
 
+        /** A call between two loops ends in the turn of one of them: who is rung, or the caller. */
         private void takeTurn(Loop loop) {
             if (loop.phase == SEIZED && loop.timer == TICKS_TO_DIAL) {
                 loop.comeTo(TONE);
-            } else if (loop.phase == RINGING) {
-                loseCallAfter(loop, ROUNDS_OF_RINGING);
-            } else if (loop.phase == REVERTING) {
-                loseCallAfter(loop, ROUNDS_OF_REVERTING);
-            } else if (loop.phase == TALKING && loop.isCaller) {
+            } else if (loop.isRung() && isLost(loop)) {
+                state.counts[LOST]++;
+                endCall(loop);
+            } else if (loop.isCaller || loop.phase == TALKING_IN_LOOP) {
                 countUnits(loop);
-                endAtLimit(loop);
-            } else if (loop.phase == TALKING_IN_LOOP) {
-                endAtLimit(loop);
+                if (isOverLimit(loop)) {
+                    endCall(loop);
+                }
             }
         }
 
-        /** A loop that is rung has nobody off the hook but who is cut off: ending frees it. */
-        private void loseCallAfter(Loop loop, int rounds) {
-            if (loop.timer == rounds * ticksOfRound(loop)) {
-                state.counts[LOST]++;
-                endCall(loop);
-            }
+        private boolean isLost(Loop loop) {
+            int rounds = loop.phase == RINGING ? ROUNDS_OF_RINGING : ROUNDS_OF_REVERTING;
+            return loop.timer == rounds * ticksOfRound(loop);
         }
 
         private void countUnits(Loop loop) {
             Subscriber payer = state.subscriberAt(loop.first);
-            if (payer != null && loop.timer % TICKS_OF_A_UNIT == 0) {
+            if (payer != null && loop.isCaller && loop.timer % TICKS_OF_A_UNIT == 0) {
                 payer.meter++;
             }
         }
 
-        private void endAtLimit(Loop loop) {
+        private boolean isOverLimit(Loop loop) {
             if (loop.timer < state.limit) {
-                return;
+                return false;
             }
             Loop far = state.loopAt(loop.otherEnd);
-            if (locksSomeoneOut(loop) || (far != null && locksSomeoneOut(far))) {
-                endCall(loop);
-            }
+            return locksSomeoneOut(loop) || (far != null && locksSomeoneOut(far));
         }
 
         private boolean locksSomeoneOut(Loop loop) {
@@ -1034,8 +1029,8 @@ public final class PartyLines {
         }
 
         int soundOf(Loop loop) {
-            int round = ticksOfRound(loop);
-            if (!loop.isRung() || round <= 0) {
+            int round = loop.isRung() ? ticksOfRound(loop) : 0;
+            if (round <= 0) {
                 return Codes.SILENCE;
             }
             int tick = loop.timer % round;
@@ -1081,15 +1076,11 @@ public final class PartyLines {
             return ((code + 1) >> digitsBehind & 1) == 1;
         }
 
-        private static int ticksOfRing(int code, int ring) {
-            return isLong(code, ring) ? LONG_TICKS : SHORT_TICKS;
-        }
-
         static int lengthOf(int code) {
             int rings = ringCount(code);
             int length = (rings - 1) * SILENCE_BETWEEN + SILENCE_BEHIND;
-            for (int ring = 0; ring < rings; ring++) {
-                length += ticksOfRing(code, ring);
+            for (int digit = 0; digit < rings; digit++) {
+                length += ((code + 1) >> digit & 1) == 1 ? LONG_TICKS : SHORT_TICKS;
             }
             return length;
         }
@@ -1098,9 +1089,10 @@ public final class PartyLines {
             int rings = ringCount(code);
             int start = 0;
             for (int ring = 0; ring < rings; ring++) {
-                int end = start + ticksOfRing(code, ring);
+                boolean longRing = isLong(code, ring);
+                int end = start + (longRing ? LONG_TICKS : SHORT_TICKS);
                 if (tick >= start && tick < end) {
-                    return isLong(code, ring) ? LONG_SOUND : SHORT_SOUND;
+                    return longRing ? LONG_SOUND : SHORT_SOUND;
                 }
                 start = end + SILENCE_BETWEEN;
             }

@@ -17,6 +17,7 @@ final class FaultsTest {
         faultWhileRinging();
         faultWhileTalking();
         faultWithTone();
+        lockedOutIsForgottenByAFault();
         faultWithinTheLoop();
         mendFree();
         mendWhileRung();
@@ -101,6 +102,20 @@ final class FaultsTest {
                 "lift 1 = 1", "dial 1 4 = 2", "lift 4 = 4", "set 4 1 1 = 0", "lift 5 = 4",
                 "hang 1 = 0", "loop 1 0 = 5", "subscriber 5 6 = 4", "fault 1 12 0 = 0",
                 "loop 1 2 = 4", "subscriber 5 6 = 3");
+        run("promise 22, who was locked out is so no more when it comes back",
+                "lift 1 = 1", "dial 1 4 = 2", "lift 4 = 4", "set 1 1 1 = 0", "lift 0 = 4",
+                "subscriber 0 6 = 4", "fault 0 2 0 = 4", "loop 0 0 = 0", "loop 1 0 = 5",
+                "mend 0 = 2", "loop 0 2 = 0", "subscriber 0 6 = 2", "subscriber 1 6 = 3");
+    }
+
+    private static void lockedOutIsForgottenByAFault() {
+        Script.run("promises 12 and 22, one that was locked out and is cut off ends no call",
+                "addSubscriber 0 9 1 = 0", "addSubscriber 0 1 2 = 1", "addSubscriber 1 1 1 = 2",
+                "setLimit 10 = 60", "lift 1 = 1", "dial 1 2 = 2", "lift 2 = 4", "set 1 1 1 = 0",
+                "lift 0 = 4", "subscriber 0 6 = 4", "fault 0 5 0 = 1", "subscriber 0 6 = 1",
+                "hang 1 = 0", "hang 2 = 0", "lift 1 = 1", "dial 1 2 = 2", "lift 2 = 4",
+                "tick 30 = 2", "loop 0 0 = 4", "mend 0 = 5", "subscriber 0 6 = 3", "tick 1 = 2",
+                "loop 0 0 = 4");
     }
 
     private static void faultWithinTheLoop() {
