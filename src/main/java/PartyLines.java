@@ -452,7 +452,6 @@ public final class PartyLines {
         }
 
         void begin() {
-            first = NONE;
             comeTo(FREE);
             clearFault();
             for (int span = 1; span <= SPANS; span++) {
@@ -932,7 +931,7 @@ public final class PartyLines {
             }
         }
 
-        /** All timers go on before the first loop has its turn, as a turn may set another's to 0. */
+        /** All timers go on before the first turn, as a turn may set the timer of another to 0. */
         void passOneTick() {
             for (int i = 0; i < MOST_LOOPS; i++) {
                 Loop loop = state.loopAt(i);
@@ -948,7 +947,10 @@ public final class PartyLines {
             }
         }
 
-        /** A call between two loops ends in the turn of one of them: who is rung, or the caller. */
+        /**
+         * A call between two loops ends in the turn of one of them: who is rung, or the caller.
+         * Nobody but who is cut off is off the hook in a loop that is rung, so ending frees it.
+         */
         private void takeTurn(Loop loop) {
             if (loop.phase == SEIZED && loop.timer == TICKS_TO_DIAL) {
                 loop.comeTo(TONE);

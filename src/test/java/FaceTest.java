@@ -24,7 +24,7 @@ final class FaceTest {
         constructors();
         methods();
         fields();
-        nestedClasses();
+        hiddenMembers();
         Script.end();
     }
 
@@ -108,10 +108,14 @@ final class FaceTest {
         }
     }
 
-    private static void nestedClasses() {
+    private static void hiddenMembers() {
         Set<String> face = new HashSet<>();
         for (Method method : PartyLines.class.getMethods()) {
             face.add(method.getName());
+        }
+        for (Method method : PartyLines.class.getDeclaredMethods()) {
+            Script.due(method + " bears a name of the face", false,
+                    isHidden(method) && face.contains(method.getName()));
         }
         for (Class<?> nested : PartyLines.class.getDeclaredClasses()) {
             int modifiers = nested.getModifiers();
