@@ -67,6 +67,10 @@ final class Script {
         return answer(party, row.name, row.args);
     }
 
+    static String answerRow(Party party, String text) {
+        return answer(party, new Row(text));
+    }
+
     /** The number, or the very class of what was thrown: one above or below it is another. */
     static String answer(Party party, String name, int... args) {
         try {
