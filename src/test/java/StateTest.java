@@ -102,7 +102,7 @@ final class StateTest {
     }
 
     /** Risks, the limit and the number of saved states cannot be asked for: they are given. */
-    private static long digest(Party party, int[][] moreRisk, int limit, int saved) {
+    static long digest(Party party, int[][] moreRisk, int limit, int saved) {
         long h = 31 * 1857L + party.call("loops");
         for (int i = 0; i < moreRisk.length; i++) {
             for (int what = 0; what <= 8; what++) {
