@@ -335,48 +335,13 @@ final class CallsTest {
     private static void bells() {
         run("promise 14, other phases", "rings 0 = 0", "lift 0 = 1", "rings 0 = 0", "dial 0 1 = 6",
                 "rings 0 = 0", "rings 2 ! Index", "rings -1 ! Index", "rings 2147483647 ! Index");
-        ringsOfCode(1, "1....");
-        ringsOfCode(2, "222....");
-        ringsOfCode(3, "1.1....");
-        ringsOfCode(4, "1.222....");
-        ringsOfCode(5, "222.1....");
-        ringsOfCode(6, "222.222....");
-        ringsOfCode(7, "1.1.1....");
-        ringsOfCode(9, "1.222.1....");
-        ringsOfCode(12, "222.1.222....");
-        ringsOfCode(14, "222.222.222....");
-    }
-
-    private static void ringsOfCode(int code, String pattern) {
-        Party party = new Real();
-        party.call("addSubscriber", 0, 1, 1);
-        party.call("addSubscriber", 1, 1, code);
-        party.call("lift", 0);
-        party.call("dial", 0, 1);
-        comparePattern("promise 14, code " + code, party, 1, pattern, 5);
-        Script.due("promise 14, lost", 0, party.call("loop", 1, 0));
-        Script.due("promise 14, silent in phase 0", 0, party.call("rings", 1));
-    }
-
-    /** The last tick of the last round is not looked at: after it the call is lost. */
-    private static void comparePattern(String title, Party party, int loop, String pattern,
-            int rounds) {
-        for (int t = 0; t < rounds * pattern.length(); t++) {
-            char sign = pattern.charAt(t % pattern.length());
-            Script.due(title + " at " + t, sign == '.' ? 0 : sign - '0', party.call("rings", loop));
-            party.call("tick", 1);
-        }
+        run("promise 14, phase 3: short and long rings, and the second round",
+                "lift 0 = 1", "dial 0 6 = 2", "rings 1 = 2", "tick 2 = 2", "rings 1 = 2",
+                "tick 1 = 2", "rings 1 = 0", "tick 1 = 2", "rings 1 = 2", "tick 3 = 2",
+                "rings 1 = 0", "tick 3 = 2", "rings 1 = 0", "tick 1 = 2", "rings 1 = 2");
     }
 
     private static void bellsWhileReverting() {
-        Party party = new Real();
-        party.call("addSubscriber", 0, 1, 4);
-        party.call("addSubscriber", 0, 1, 11);
-        party.call("lift", 0);
-        party.call("dial", 0, 1);
-        party.call("hang", 0);
-        comparePattern("promise 14, phase 7", party, 0, "222.1.1....1.222....", 4);
-        Script.due("promise 14, lost in phase 7", 0, party.call("loop", 0, 0));
         run("promise 14, silence in phase 8", "lift 0 = 1", "dial 0 1 = 6", "hang 0 = 7",
                 "rings 0 = 2", "lift 1 = 8", "rings 0 = 0");
     }

@@ -16,6 +16,7 @@ final class FaultsEdgesTest {
         shortInEachPhase();
         openBetweenTheOnesThatAreOff();
         faultAtTheOtherEnd();
+        firstAndLastNumberLockedOut();
         mendInEachPhase();
         mendWithNobodyInEachPhase();
         mendAFreeLoop();
@@ -150,6 +151,20 @@ final class FaultsEdgesTest {
         Scene.inPhase(4).add("set 4 1 1 = 0", "lift 5 = 4", "subscriber 5 6 = 4", "fault 1 4 0 = 2",
                 "subscriber 5 6 = 1", "mend 1 = 4", "subscriber 5 6 = 3", "loop 1 2 = 4")
                 .run("who was locked out is cut off, and listens when it is mended");
+    }
+
+    private static void firstAndLastNumberLockedOut() {
+        Rows rows = new Rows().add("addSubscriber 0 12 1 = 0", "addSubscriber 0 1 2 = 1");
+        for (int i = 2; i < 15; i++) {
+            rows.add("addSubscriber 1 1 " + (i - 1) + " = " + i);
+        }
+        rows.add("addSubscriber 0 12 14 = 15", "set 1 1 1 = 0", "lift 1 = 1", "dial 1 14 = 2",
+                "lift 14 = 4", "lift 0 = 4", "lift 15 = 4", "subscriber 0 6 = 4",
+                "subscriber 15 6 = 4", "fault 0 12 0 = 2", "loop 0 0 = 5", "loop 0 2 = 1",
+                "subscriber 0 6 = 1", "subscriber 15 6 = 1", "mend 0 = 12", "loop 0 2 = 1",
+                "subscriber 0 6 = 3", "subscriber 15 6 = 3", "hang 1 = 5", "loop 0 2 = 0",
+                "subscriber 15 6 = 3", "hang 0 = 5", "loop 0 2 = 15", "hang 15 = 0")
+                .run("locked out until the loop is left, the first and the last number");
     }
 
     /** Subscriber 3 is off the hook and cut off; privacy is on, and counts for nothing. */
