@@ -730,6 +730,7 @@ public final class PartyLines {
             return Codes.byLength(rank);
         }
 
+        /** Rows beyond the counts are not copied: they begin anew when something is added. */
         void copyFrom(State other) {
             loopCount = other.loopCount;
             subscriberCount = other.subscriberCount;
@@ -738,10 +739,18 @@ public final class PartyLines {
                 counts[i] = other.counts[i];
             }
             for (int i = 0; i < MOST_LOOPS; i++) {
-                loopRow[i].copyFrom(other.loopRow[i]);
+                Loop loop = loopAt(i);
+                Loop original = other.loopAt(i);
+                if (loop != null && original != null) {
+                    loop.copyFrom(original);
+                }
             }
             for (int i = 0; i < MOST_SUBSCRIBERS; i++) {
-                subscriberRow[i].copyFrom(other.subscriberRow[i]);
+                Subscriber subscriber = subscriberAt(i);
+                Subscriber original = other.subscriberAt(i);
+                if (subscriber != null && original != null) {
+                    subscriber.copyFrom(original);
+                }
             }
         }
     }
@@ -761,8 +770,9 @@ public final class PartyLines {
             if (count >= MOST_SAVED) {
                 dropOldest();
             }
-            if (count >= 0 && count < MOST_SAVED) {
-                saved[count].copyFrom(state);
+            State next = savedAt(count);
+            if (next != null) {
+                next.copyFrom(state);
                 count++;
             }
         }
@@ -778,10 +788,15 @@ public final class PartyLines {
         }
 
         void restore(State state) {
-            if (count > 0 && count <= MOST_SAVED) {
+            State latest = savedAt(count - 1);
+            if (latest != null) {
+                state.copyFrom(latest);
                 count--;
-                state.copyFrom(saved[count]);
             }
+        }
+
+        private State savedAt(int place) {
+            return place >= 0 && place < MOST_SAVED ? saved[place] : null;
         }
     }
 
